@@ -424,6 +424,9 @@ public final class PromiseTests {
         fault(x, 0, "song 1 wants 1 ", 1, 15);
         fault(x, 0, "songs 1 wants 1;", 1, 0);
         fault(x, 0, "Song 1 wants 1;", 1, 0);
+        for (String letter : new String[] {"a", "z", "A", "Z"}) {
+            fault(x, 0, "gap" + letter + " 1;", 1, 0);
+        }
         fault(x, 0, "gap 00001;", 1, 4);
         fault(x, 0, "gap 1,", 1, 5);
         fault(x, 0, "gap 1\t;", 1, 5);
@@ -774,6 +777,13 @@ public final class PromiseTests {
         y.put(9);
         // Held 0, 0, 1, 2, 3 on: 9, 9, 10, 11, 12: each counted, so 3 at most; back all 5.
         tells(y, 1, 1, 3);
+        tell(y, 1, "speed 20 when side=1;speed 1;late 0;");
+        y.set(0, 0);
+        y.turned(2, 0);
+        y.put(9);
+        y.set(0, 1);
+        // Held 0, 1, 2 on, by the law of this side: 9, 10, 11; of the other it were 9, 29, 35.
+        tells(y, 1, 1, 2);
     }
 
     private static void card() {
@@ -841,6 +851,10 @@ public final class PromiseTests {
         due("twelve songs", x.halves(1), 63);
         tell(x, 0, "song 5 wants 1;".repeat(13));
         due("thirteen songs", x.halves(0), NONE);
+        String full = "song 60 wants 1;song 60 wants 1;song 60 wants 1;song 20 wants 1;";
+        tell(x, 0, full + "turn;" + full);
+        due("both sides full", x.halves(0), 0);
+        due("both sides full", x.halves(1), 15);
     }
 
     private static void worn() {
@@ -918,6 +932,11 @@ public final class PromiseTests {
         due("60, if none does", x.rule(0), 2 * (61 + 90));
         promise = 31;
         due("best()", new WoundTape().best(), 0);
+        // 30 ahead it is there, and plays on; else it winds far beyond.
+        tell(x, 0, "gap 30;song 20 wants 1;");
+        tell(x, 1, "speed 30;late 9;");
+        x.set(1, 99);
+        due("best()", x.best(), 30);
         promise = 30;
         due("rule(30)", new WoundTape().rule(30), 0);
     }

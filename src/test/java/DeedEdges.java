@@ -464,6 +464,10 @@ public final class DeedEdges {
         y.put(20);
         y.wind(false, 2);
         Check.knows(y, 18, 15, 12, 9, 6, 3);
+        WoundTape z = Check.made(Check.TAPE, "speed 3;late 5+hold;", 2);
+        z.wind(true, 1);
+        // Held 0 late by 5, 1 by 6, 2 by 7, 3 by 8.
+        Check.knows(z, 5, 9, 13, 17);
     }
 
     private static void hearBounds() {
@@ -525,6 +529,8 @@ public final class DeedEdges {
     private static void hearPlaceByPlace() {
         Check.sentence("3: To HEAR n: PLACE by PLACE; KNOWN are only those at which the same is heard");
         WoundTape x = Check.made(Check.TAPE, "speed 1;late 0;", 1);
+        heard(x, 1, 0);
+        Check.knows(x, 1);
         x.put(6);
         x.state(stateFor(3, 1));
         wound(x, true, 1, 7);

@@ -122,8 +122,9 @@ public final class KeptEdges {
     private static void lawFull() {
         Check.sentence("2: full: 99 times that by L (L 0: 0), downwards");
         WoundTape x = new WoundTape();
+        Check.tell(x, 1, "slip full+5;");
+        Check.due("L 0", x.lawAt(0, true, 1, 2), 5);
         Check.tell(x, 1, "slip full;");
-        Check.due("L 0", x.lawAt(0, true, 1, 2), 0);
         Check.tell(x, 0, "gap 60;gap 40;");
         for (int p : new int[] {0, 1, 2, 50, 98, 99, 100}) {
             Check.due("full at " + p + " of 100", x.lawAt(p, true, 1, 2), 99 * p / 100);
@@ -207,6 +208,15 @@ public final class KeptEdges {
             slips("slip 5 when " + a + " and not not " + b + " and not " + c + ";", p && q && !r ? 5 : 0);
         }
         slips("slip 5 when at+1=13 and hold*2>13;", 5);
+        slips("slip 5 when 1<2 and 1=1;slip 6;", 5);
+        slips("slip 5 when 2>1 and 1=1 and 1<2;slip 6;", 5);
+        slips("slip 5 when not 1=1;slip 6;", 6);
+        slips("slip 5 when not 1=2;slip 6;", 5);
+        slips("slip 5 when not not 1=2;slip 6;", 6);
+        slips("slip 5 when not(1=1 or 1=2);slip 6;", 6);
+        Check.sentence("2: not takes one C alone");
+        slips("slip 5 when not 1=2 and 1=2;slip 6;", 6);
+        slips("slip 5 when not 1=1 or 1=1;slip 6;", 5);
     }
 
     private static void bookAsked() {
@@ -478,8 +488,8 @@ public final class KeptEdges {
         WoundTape x = Check.made(Check.TAPE, "speed 3;late 1;slip 500;", 2);
         Check.tell(x, 2, "again 2(on 2 turn)");
         Check.tell(x, 3, "after 0 1 wants 7;after 2 0 wants 9;");
-        x.worn(16, 5);
-        x.worn(1, 6);
+        x.worn(9, 5);
+        x.worn(10, 6);
         x.set(1, 33);
         x.state(-4);
         x.wind(true, 4);
@@ -517,6 +527,14 @@ public final class KeptEdges {
         Check.due("much is otherwise", Check.seen(x).equals(before), false);
         Check.due("image(false)", x.image(false), true);
         Check.unchanged("going back", x, before);
+        WoundTape y = full();
+        y.image(true);
+        Check.due("all undone", y.undo() && y.undo() && y.undo(), true);
+        y.put(30);
+        y.put(31);
+        y.put(32);
+        Check.due("image(false)", y.image(false), true);
+        Check.unchanged("THE BOOK written anew", y, before);
         Check.sentence("4: all but the TAPE of bytes, fault() and what can be undone (nothing then)");
         Check.tell(x, 0, "gap 1;?");
         x.feed(1, 2, 3, 4, 5);

@@ -294,6 +294,8 @@ public final class TextEdges {
         Check.due("song(1, 3)", x.song(1, 3), 99);
         fault(x, 0, "song 1 wants 100;", 2, 13);
         fault(x, 0, "song 1 wants -1;", 1, 13);
+        fault(x, 0, "song 1;", 1, 6);
+        fault(x, 0, "song 1 1;", 1, 7);
     }
 
     private static void gapLong() {
@@ -582,6 +584,8 @@ public final class TextEdges {
         fault(x, 0, "gapz 1;", 1, 0);
         fault(x, 0, "agap 1;", 1, 0);
         fault(x, 0, "gap_1;", 1, 3);
+        fault(x, 0, "gapA 1;", 1, 0);
+        fault(x, 0, "gapZ 1;", 1, 0);
         String[][] strange = {{"speed 1;", "on 1", "after 0 1 wants 1;"}, {"gap 1;", "turn", "again 1(turn)", "wants"},
             {"song 1 wants 1;", "gap 1", "speed 1", "after", "not"}, {"song", "gap", "turn", "speed", "on 1", "again"}};
         for (int k = 0; k < 4; k++) {
@@ -614,6 +618,14 @@ public final class TextEdges {
         fault(x, 1, "slip 1 when 1>=1;", 1, 14);
         fault(x, 1, "slip 1 when 1==1;", 1, 14);
         fault(x, 1, "slip 1++1;", 1, 7);
+        for (int c = 0; c < 256; c++) {
+            WoundTape y = new WoundTape();
+            boolean joins = c >= '0' && c <= '9' || c == 32 || c == 10;
+            boolean ends = c == ';';
+            Check.due("text(0) with byte " + c, tell(y, 0, "gap 1" + (char) c + ";"), joins ? 0 : NONE);
+            Check.due("its place", y.fault(1), joins ? NONE : ends ? 6 : 5);
+            Check.due("text(0) with byte " + c + " alone", tell(y, 0, "" + (char) c), c == 32 || c == 10 ? 0 : NONE);
+        }
         for (char c : new char[] {',', '.', ':', '!', '"', '#', '&', '[', '_', '`', '{', '@', '^', '|', '~', 127, 128, 255}) {
             fault(x, 1, "slip 1" + c, 1, 6);
             fault(x, 0, c + "gap 1;", 1, 0);

@@ -469,6 +469,12 @@ public final class ThoughtEdges {
         y.put(3);
         // Back by 1: held 0 four times: the end; 1: a gap; 2, 3, 4, 5: song 0.
         tells(y, 1, 0, 4);
+        Check.sentence("4: TELLS on this SIDE, whatever was reckoned ahead of it");
+        WoundTape z = Check.made(Check.TAPE, "speed 20 when side=1;speed 1;late 0;", 1);
+        z.put(9);
+        z.turned(2, 0);
+        // Held 0, 1, 2 on: 9, 10, 11; by THE LAW of the other SIDE 9, 29, 35.
+        tells(z, 1, 1, 2);
     }
 
     // ---- CARD
@@ -604,6 +610,12 @@ public final class ThoughtEdges {
         Check.tell(y, 3, "after 0 2 wants 2;after 2 1 wants 3;after 1 0 wants 7;after 0 3 wants 99;after 3 1 wants 99;");
         // 0 1 2: 8, 27, 49; 0 2 1: 0, 0, 84; 1 0 2: 0, 36, 0; 1 2 0: 24, 27, 35; 2 0 1: 16, 9, 49; 2 1 0: 24, 0, 0.
         order(y, 24, 2, 1, 0);
+        WoundTape z = Check.made("song 2 wants 1;song 3 wants 1;turn;song 4 wants 1;song 5 wants 1;", "", 1);
+        Check.tell(z, 3, "after 0 2 wants 9;after 0 3 wants 9;after 1 2 wants 9;after 1 3 wants 9;after 2 0 wants 9;"
+            + "after 2 1 wants 9;after 3 0 wants 9;after 3 1 wants 9;");
+        order(z, 0, 0, 1);
+        z.turn();
+        order(z, 0, 2, 3);
     }
 
     private static void orderFirst() {
@@ -888,6 +900,23 @@ public final class ThoughtEdges {
         WoundTape x = Check.made("gap 30;song 20 wants 1;", "speed 30;late 9;", 0);
         x.set(1, 99);
         Check.due("30 is one, too", x.best(), 30);
+        x = Check.made("gap 31;song 20 wants 1;", "speed 30;late 9;", 0);
+        x.set(1, 99);
+        Check.due("31 is none", x.best(), 0);
+        Check.sentence("4: BEST from where it STANDS, whatever was reckoned ahead of it");
+        x = Check.made("gap 60;gap 60;song 9 wants 1;turn;gap 40;song 9 wants 1;", "speed 9;late 4;", 1);
+        x.put(50);
+        int due = x.best();
+        Check.due("best() reckoned from RULE", x.rule(due) < x.rule(0) || due == 0, true);
+        x.rule(0);
+        x.soonest(3, 0, 0);
+        Check.due("behind SOONEST", x.best(), due);
+        x.turned(1, 0);
+        Check.due("behind TURNED", x.best(), due);
+        WoundTape y = Check.made("gap 30;song 20 wants 1;", "speed 30;late 9;", 0);
+        y.set(1, 99);
+        y.soonest(30, 0, 0);
+        Check.due("behind SOONEST from elsewhere", y.best(), 30);
     }
 
     // ---- GOES, and all of it
@@ -935,6 +964,11 @@ public final class ThoughtEdges {
         Check.tell(x, 2, "again 6(again 5(on 60 back 60))");
         goes(x, 0, 0, 60 * 61, 60 * 61);
         Check.looks(x, 5, 0);
+        Check.sentence("4: GOES by THE LAW of the SIDE on which it is then");
+        x = Check.made(Check.TAPE, "speed 4 when side=1;speed 3;late 0;", 1);
+        Check.tell(x, 2, "on 2 turn back 3 turn on 1");
+        // 6, 29, 17, 18, 21.
+        goes(x, 0, 21, 9 + 16, 9);
     }
 
     private static void nothingStays() {

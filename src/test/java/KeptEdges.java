@@ -20,6 +20,7 @@ public final class KeptEdges {
         undoNothing();
         undoSix();
         undoEachDeed();
+        undoEvening();
         undoLatestFirst();
         undoForgotten();
         undoNotForgotten();
@@ -369,6 +370,24 @@ public final class KeptEdges {
             Check.unchanged("deed " + deed + " undone", x, before);
         }
         Check.looks(x, 15, 2);
+    }
+
+    private static void undoEvening() {
+        Check.sentence("4: an EVENING goes back as one");
+        WoundTape x = Check.even(1);
+        Check.due("evening() without deeds", x.evening(), 0);
+        Check.looks(x, 15, 1);
+        Check.due("undo()", x.undo(), true);
+        Check.looks(x, 15, 0);
+        Check.tell(x, 2, "again 9(on 2 hear 3 turn back 1)");
+        x.put(4);
+        String before = Check.seen(x);
+        Check.due("evening()", x.evening(), 36);
+        Check.looks(x, 9, 37);
+        Check.looks(x, 15, 2);
+        Check.due("undo()", x.undo(), true);
+        Check.unchanged("an evening undone", x, before);
+        Check.looks(x, 12, 36);
     }
 
     private static void undoLatestFirst() {

@@ -361,6 +361,13 @@ public final class RandomRuns {
         return b.toString();
     }
 
+    /** By most sums a tape runs to its end at once, and nothing else of THE LAW is seen then. */
+    private String slowLine() {
+        String[] lines = {"speed 1+stops", "speed stops*2-hold", "speed 1+side when stops>1", "speed 1+full/40",
+            "speed 3-on when song=99", "late stops", "late hold/3 when not stops=1", "late 3*side+on", "slip 90*stops"};
+        return lines[below(lines.length)] + ";";
+    }
+
     private String law(boolean faulty) {
         String[] any = {"speed ", "late ", "slip "};
         StringBuilder b = new StringBuilder();
@@ -369,6 +376,8 @@ public final class RandomRuns {
             String line = any[below(3)] + sum() + (chance(60) ? " when " + choice(0) : "") + blank() + ";" + blank();
             if (line.startsWith("slip") && chance(70)) {
                 line = "slip " + below(1001) + ";";
+            } else if (chance(40)) {
+                line = slowLine();
             }
             if (b.length() + line.length() <= 400) {
                 b.append(line);

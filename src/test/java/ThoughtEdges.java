@@ -969,6 +969,15 @@ public final class ThoughtEdges {
         Check.tell(x, 2, "on 2 turn back 3 turn on 1");
         // 6, 29, 17, 18, 21.
         goes(x, 0, 21, 9 + 16, 9);
+        Check.sentence("4: GOES: each winding is one STOP more");
+        x = Check.made(Check.TAPE, "speed 1+stops;late 0;", 1);
+        Check.tell(x, 2, "on 3 hear 1 on 2 back 1");
+        // 3, 4, 8, 5: by 1, 2 and 3 PLACES a second.
+        goes(x, 0, 5, 10, 9);
+        x.put(0);
+        x.hear(2);
+        goes(x, 0, 7, 10, 9);
+        Check.looks(x, 6, 0);
     }
 
     private static void nothingStays() {
